@@ -453,11 +453,11 @@ public final class FaxPages {
         }
 
         private int byteAt(int i) {
-            return has(i) ? bytes[i] : 0;
+            return i >= 0 && i < used ? bytes[i] : 0;
         }
 
         private void change(int i, int b) {
-            if (has(i)) {
+            if (i >= 0 && i < used) {
                 bytes[i] = b;
             }
         }
@@ -556,9 +556,9 @@ public final class FaxPages {
             if (next >= end) {
                 return -1;
             }
-            int b = file.byteAt(next / 8) >> 7 - next % 8 & 1;
+            int bit = file.byteAt(next / 8) >> 7 - next % 8 & 1;
             next++;
-            return b;
+            return bit;
         }
 
         private int number(int count) {
@@ -1065,7 +1065,11 @@ public final class FaxPages {
         @Override
         public boolean unpack(Picture picture, int top, int bottom) {
             for (int y = top; y < bottom; y++) {
-                boolean held = marked ? unpackMarked(picture, y, y == top)
+                int byItself = marked ? markedLine() : 0;
+                if (byItself < 0 || marked && y == top && byItself == 0) {
+                    return false;
+                }
+                boolean held = byItself == 1 ? lines.unpackByItself(picture, y)
                         : lines.unpackByAnother(picture, y, y == top ? NO_LINE : y - 1);
                 if (!held) {
                     return false;
@@ -1074,15 +1078,9 @@ public final class FaxPages {
             return (marked || isMark() && isMark()) && bits.onlyFillLeft();
         }
 
-        private boolean unpackMarked(Picture picture, int y, boolean first) {
-            if (!isMark()) {
-                return false;
-            }
-            int byItself = bits.bit();
-            if (byItself == 1) {
-                return lines.unpackByItself(picture, y);
-            }
-            return byItself == 0 && !first && lines.unpackByAnother(picture, y, y - 1);
+        /** 1 if the line behind the MARK is BY ITSELF, 0 if not; -1 if there is no MARK. */
+        private int markedLine() {
+            return isMark() ? bits.bit() : -1;
         }
 
         private boolean isMark() {
@@ -1106,14 +1104,13 @@ public final class FaxPages {
             modes = new CodeTree(MODES);
         }
 
-        private void packRun(int count, int colour) {
-            if (count >= 0 && count < WHITE_RUNS.length) {
-                file.appendCode(colour == WHITE ? WHITE_RUNS[count] : BLACK_RUNS[count]);
-            }
+        private static int runCode(int count, int colour) {
+            int run = Math.max(0, Math.min(count, WHITE_RUNS.length - 1));
+            return colour == WHITE ? WHITE_RUNS[run] : BLACK_RUNS[run];
         }
 
-        private int unpackRun(int colour) {
-            return colour == WHITE ? whiteRuns.next(bits) : blackRuns.next(bits);
+        private CodeTree runsOf(int colour) {
+            return colour == WHITE ? whiteRuns : blackRuns;
         }
 
         private void packByItself(Picture picture, int y) {
@@ -1121,7 +1118,7 @@ public final class FaxPages {
             int colour = WHITE;
             for (int step = 0; step <= picture.width && x < picture.width; step++) {
                 int end = picture.firstUnlike(y, x, colour);
-                packRun(end - x, colour);
+                file.appendCode(runCode(end - x, colour));
                 x = end;
                 colour = 1 - colour;
             }
@@ -1132,7 +1129,7 @@ public final class FaxPages {
             int colour = WHITE;
             // Runs of no pixels may stand anywhere: only the bits of the file bound how many there are.
             for (int step = 0; step < 8 * MOST_FILE_BYTES && x < picture.width; step++) {
-                int count = unpackRun(colour);
+                int count = runsOf(colour).next(bits);
                 if (count < 0 || x + count > picture.width) {
                     return false;
                 }
@@ -1160,8 +1157,8 @@ public final class FaxPages {
                 } else {
                     int a2 = picture.firstUnlike(y, a1 + 1, 1 - colour);
                     file.appendCode(MODES[TWO_RUNS]);
-                    packRun(a1 - Math.max(a, 0), colour);
-                    packRun(a2 - a1, 1 - colour);
+                    file.appendCode(runCode(a1 - Math.max(a, 0), colour));
+                    file.appendCode(runCode(a2 - a1, 1 - colour));
                     a = a2;
                 }
             }
@@ -1192,8 +1189,8 @@ public final class FaxPages {
 
         /** Answers where the runs end; -1 if they can't be. */
         private int unpackTwoRuns(Picture picture, int y, int from, int colour) {
-            int count = unpackRun(colour);
-            int otherCount = count < 0 ? -1 : unpackRun(1 - colour);
+            int count = runsOf(colour).next(bits);
+            int otherCount = count < 0 ? -1 : runsOf(1 - colour).next(bits);
             if (otherCount < 0 || count + otherCount == 0) {
                 return -1;
             }

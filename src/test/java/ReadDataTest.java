@@ -98,6 +98,11 @@ public final class ReadDataTest {
         refused("too few bytes", grayCodes(2, 1, 256, 7, 257));
         refused("too many bytes", grayCodes(2, 1, 256, 7, 8, 9, 257));
         refused("too many bytes by an entry", grayCodes(2, 1, 256, 7, 258, 257));
+        int[] same = new int[29];
+        for (int i = 0; i < same.length; i++) {
+            same[i] = i == 1 ? 9 : 256 + i;
+        }
+        refused("too many bytes of the largest picture", grayCodes(20, 20, same));
         refused("an entry at first", grayCodes(2, 1, 256, 258, 257));
         refused("an entry right behind a CLEAR", grayCodes(4, 1, 256, 7, 7, 256, 258, 257));
         refused("an entry of the table before", grayCodes(7, 1, 256, 7, 7, 7, 7, 256, 7, 259, 257));
@@ -205,6 +210,7 @@ public final class ReadDataTest {
         refused("beyond the width, black", 3, 4, 1, MARK + "1 000111 011");
         refused("a run of nothing behind the last", 3, 4, 1, MARK + "1 1011" + B0);
         refused("cut", 3, 8, 1, MARK + "1 10");
+        refused("cut before a code's last 0", 3, 3, 1, MARK + "1 100");
         refused("no white code", 3, 4, 1, MARK + "1 00000001");
         refused("the code of a run of 64", 3, 40, 1, MARK + "1 11011 00101001");
         refused("no black code", 3, 4, 1, MARK + "1 000111 000000001");
