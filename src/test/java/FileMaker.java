@@ -23,6 +23,7 @@ final class FileMaker {
     private final TreeMap<Integer, Tag> tags = new TreeMap<>();
     private final List<int[]> strips = new ArrayList<>();
     private final List<Integer> bytes = new ArrayList<>();
+    private final List<Integer> missing = new ArrayList<>();
     private long behind;
     private int stripPlacesType = LONG;
     private int stripSizesType = LONG;
@@ -57,7 +58,7 @@ final class FileMaker {
     }
 
     FileMaker without(int number) {
-        tags.remove(number);
+        missing.add(number);
         return this;
     }
 
@@ -87,8 +88,21 @@ final class FileMaker {
         return this;
     }
 
-    /** Strips, then the tags, then the values that do not fit into them. */
+    /** As the file of a new object. */
     FaxPages made() {
+        return into(new FaxPages());
+    }
+
+    /** As the file of an object, whatever that has had before. */
+    FaxPages into(FaxPages pages) {
+        makeBytes();
+        pages.cut(0);
+        bytes.forEach(pages::add);
+        return pages;
+    }
+
+    /** Strips, then the tags, then the values that do not fit into them. */
+    private void makeBytes() {
         bytes.clear();
         bytes.add(motorola ? 77 : 73);
         bytes.add(motorola ? 77 : 73);
@@ -98,6 +112,7 @@ final class FileMaker {
             bytes.add(170);
         }
         placeStrips();
+        missing.forEach(tags::remove);
         setNumber(4, 4, bytes.size());
         number(2, tags.size());
         int far = bytes.size() + 12 * tags.size() + 4;
@@ -122,9 +137,6 @@ final class FileMaker {
         }
         number(4, behind);
         farTags.forEach(this::values);
-        FaxPages pages = new FaxPages();
-        bytes.forEach(pages::add);
-        return pages;
     }
 
     private void placeStrips() {

@@ -28,6 +28,28 @@ final class Pages {
         return pages;
     }
 
+    /** With a picture and a file that was written, all of it unlike what a new object has. */
+    static FaxPages withPast() {
+        FaxPages pages = gray(3, 11, 22, 33, 44, 55, 255);
+        pages.write(32773, true, 1);
+        return pages;
+    }
+
+    static FaxPages bilevelWithPast() {
+        FaxPages pages = bilevel("#.#", ".##", "##.");
+        pages.write(4, true, 2);
+        return pages;
+    }
+
+    /** An object whose file has these bytes, but was neither written nor read. */
+    static FaxPages ofBytes(int... bytes) {
+        FaxPages pages = new FaxPages();
+        for (int b : bytes) {
+            pages.add(b);
+        }
+        return pages;
+    }
+
     /** As bilevel takes it; gray pixels as numbers. */
     static String shown(FaxPages pages) {
         boolean gray = pages.info(2) == 1;

@@ -1,27 +1,39 @@
-/** Promise 6: write. */
+import java.util.function.Consumer;
+
+/** Promise 6: write, as far as the file round the strips goes, and its refusals; sentence by sentence. */
 public final class WriteTest {
     private static final Check CHECK = new Check();
-    private static final String MARK = "000000000001";
+    private static final int LEAST = Integer.MIN_VALUE;
+    private static final int MOST = Integer.MAX_VALUE;
+    private static final int[] SCHEMES = {1, 3, 4, 5, 32773};
 
     public static void main(String[] args) {
-        wholeFiles();
-        plainStrips();
-        runsStrips();
-        tableStrips();
-        tableWidths();
-        g3Strips();
-        g4Strips();
-        allRunCodes();
-        g4Modes();
-        wrongArguments();
-        againAndAgain();
+        CHECK.sentence("II the lowest byte first", WriteTest::lowestFirst);
+        CHECK.sentence("MM the highest first", WriteTest::highestFirst);
+        CHECK.sentence("292 (1, only with G3)", WriteTest::linesTag);
+        CHECK.sentence("258 bits of a pixel (1 or 8), .. 262 (0 for BILEVEL, 1 for GRAY)", WriteTest::kindTags);
+        CHECK.sentence("A STRIP has so many rows, the last one what is left.", WriteTest::rowsOfStrips);
+        CHECK.sentence("strips one behind the other from place 8 on; if there are two or more, their places,"
+            + " and their numbers of bytes, as LONGs", WriteTest::stripLists);
+        CHECK.sentence("a byte 0 if that makes the place even", WriteTest::evenPlaces);
+        CHECK.sentence("WRITING the picture as the file: how many bytes.", WriteTest::sizes);
+        CHECK.sentence("A FILE has at most 2000 bytes. (the longest)", WriteTest::longestFiles);
+        CHECK.sentence("IllegalArgument: the scheme is none", WriteTest::noScheme);
+        CHECK.sentence("or rows is not 1 .. height.", WriteTest::wrongRows);
+        CHECK.sentence("IllegalState: G3 or G4 and a GRAY picture.", WriteTest::grayFax);
+        CHECK.sentence("where it lists more than one exception, the first one wins. (write)", WriteTest::firstWins);
+        CHECK.sentence("WRITING the picture as the file (again and again)", WriteTest::againAndAgain);
         CHECK.end();
     }
 
-    private static void wholeFiles() {
+    private static void whole(String what, FaxPages pages, int answer, String bytes) {
+        CHECK.same(what + ": bytes", answer, (bytes.length() + 1) / 3);
+        CHECK.same(what, Pages.hex(pages, 0, pages.size()), bytes);
+    }
+
+    private static void lowestFirst() {
         FaxPages pages = Pages.bilevel("#.#");
-        CHECK.same("bytes", pages.write(1, false, 1), 112);
-        CHECK.same("II, one strip", Pages.hex(pages, 0, pages.size()), ""
+        whole("II, one strip", pages, pages.write(1, false, 1), ""
             + "49 49 2a 00 0a 00 00 00 a0 00 08 00"
             + " 00 01 03 00 01 00 00 00 03 00 00 00"
             + " 01 01 03 00 01 00 00 00 01 00 00 00"
@@ -32,9 +44,11 @@ public final class WriteTest {
             + " 16 01 03 00 01 00 00 00 01 00 00 00"
             + " 17 01 04 00 01 00 00 00 01 00 00 00"
             + " 00 00 00 00");
-        pages = Pages.gray(1, 7, 8, 200);
-        CHECK.same("bytes", pages.write(32773, true, 2), 132);
-        CHECK.same("MM, two strips", Pages.hex(pages, 0, pages.size()), ""
+    }
+
+    private static void highestFirst() {
+        FaxPages pages = Pages.gray(1, 7, 8, 200);
+        whole("MM, two strips", pages, pages.write(32773, true, 2), ""
             + "4d 4d 00 2a 00 00 00 1e 00 07 00 08 00 c8"
             + " 00 00 00 08 00 00 00 0c 00 00 00 04 00 00 00 02 00 08"
             + " 01 00 00 03 00 00 00 01 00 01 00 00"
@@ -46,9 +60,11 @@ public final class WriteTest {
             + " 01 16 00 03 00 00 00 01 00 02 00 00"
             + " 01 17 00 04 00 00 00 02 00 00 00 16"
             + " 00 00 00 00");
-        pages = Pages.bilevel(".");
-        CHECK.same("bytes", pages.write(3, true, 1), 126);
-        CHECK.same("MM, G3", Pages.hex(pages, 0, pages.size()), ""
+    }
+
+    private static void linesTag() {
+        FaxPages pages = Pages.bilevel(".");
+        whole("MM, G3", pages, pages.write(3, true, 1), ""
             + "4d 4d 00 2a 00 00 00 0c 00 18 e0 00 00 09"
             + " 01 00 00 03 00 00 00 01 00 01 00 00"
             + " 01 01 00 03 00 00 00 01 00 01 00 00"
@@ -60,160 +76,185 @@ public final class WriteTest {
             + " 01 17 00 04 00 00 00 01 00 00 00 03"
             + " 01 24 00 04 00 00 00 01 00 00 00 01"
             + " 00 00 00 00");
-    }
-
-    private static void strip(String what, FaxPages pages, int scheme, String bits) {
-        pages.write(scheme, false, pages.info(1));
-        int many = Pages.packed(bits).length;
-        CHECK.same(what, Pages.hex(pages, 8, 8 + many), Pages.packedHex(bits));
-        CHECK.same(what + ": size of the strip", sizeOfStrip(pages), many);
-    }
-
-    private static int sizeOfStrip(FaxPages pages) {
-        int tags = pages.at(4) + 256 * pages.at(5);
-        return pages.at(tags + 2 + 7 * 12 + 8) + 256 * pages.at(tags + 2 + 7 * 12 + 9);
-    }
-
-    private static void plainStrips() {
-        strip("nine pixels", Pages.bilevel("#.#.#.#.#", "........#"), 1, "10101010 10000000 00000000 10000000");
-        strip("gray", Pages.gray(3, 1, 0, 255, 9, 8, 7), 1, Pages.codes(8, 1, 0, 255, 9, 8, 7));
-    }
-
-    private static void runsStrips() {
-        strip("same", Pages.gray(4, 5, 5, 5, 5), 32773, Pages.codes(8, 253, 5));
-        strip("two of the same", Pages.gray(2, 5, 5), 32773, Pages.codes(8, 255, 5));
-        strip("different", Pages.gray(4, 5, 6, 5, 6), 32773, Pages.codes(8, 3, 5, 6, 5, 6));
-        strip("alone", Pages.gray(1, 5), 32773, Pages.codes(8, 0, 5));
-        strip("in turn", Pages.gray(8, 1, 2, 2, 3, 4, 5, 5, 6), 32773,
-            Pages.codes(8, 0, 1, 255, 2, 1, 3, 4, 255, 5, 0, 6));
-        strip("rows by themselves", Pages.gray(2, 5, 5, 5, 5), 32773, Pages.codes(8, 255, 5, 255, 5));
-        int[] wide = new int[20];
-        strip("widest", Pages.gray(20, wide), 32773, Pages.codes(8, 237, 0));
-        strip("bilevel", Pages.bilevel("########.......#########"), 32773, Pages.codes(8, 2, 255, 1, 255));
-    }
-
-    private static void tableStrips() {
-        strip("alone", Pages.gray(1, 77), 5, Pages.codes(9, 256, 77, 257));
-        strip("its own entry", Pages.gray(7, 7, 7, 7, 7, 7, 7, 9), 5, Pages.codes(9, 256, 7, 258, 259, 9, 257));
-        strip("over the rows' ends", Pages.gray(3, 1, 2, 1, 2, 1, 2, 3, 3, 3), 5,
-            Pages.codes(9, 256, 1, 2, 258, 258, 3, 262, 257));
-        strip("bilevel", Pages.bilevel("#", "#", "."), 5, Pages.codes(9, 256, 128, 128, 0, 257));
-    }
-
-    /** Bytes of which no two stand behind one another twice. */
-    private static int[] unlikePairs(int many) {
-        int[] bytes = new int[many];
-        for (int i = 0; i < many; i++) {
-            bytes[i] = i < 256 ? i : 3 * i & 255;
-        }
-        return bytes;
-    }
-
-    private static void tableWidths() {
-        int[] bytes = unlikePairs(400);
-        String bits = Pages.codes(9, 256);
-        for (int i = 0; i < 400; i++) {
-            bits += Pages.codes(i < 254 ? 9 : 10, bytes[i]);
-        }
-        strip("400 codes", Pages.gray(20, bytes), 5, bits + Pages.codes(10, 257));
-
-        bytes = unlikePairs(255);
-        bits = Pages.codes(9, 256);
-        for (int i = 0; i < 254; i++) {
-            bits += Pages.codes(9, bytes[i]);
-        }
-        strip("255 codes", Pages.gray(15, bytes), 5, bits + Pages.codes(10, 254, 257));
-
-        bytes[253] = 0;
-        bytes[254] = 1;
-        bits = Pages.codes(9, 256);
-        for (int i = 0; i < 253; i++) {
-            bits += Pages.codes(9, bytes[i]);
-        }
-        strip("END is the 255th", Pages.gray(15, bytes), 5, bits + Pages.codes(9, 258) + Pages.codes(10, 257));
-
-        bytes = unlikePairs(252);
-        bits = Pages.codes(9, 256);
-        for (int i = 0; i < 252; i++) {
-            bits += Pages.codes(9, bytes[i]);
-        }
-        strip("END is the 253rd", Pages.gray(14, bytes), 5, bits + Pages.codes(9, 257));
-    }
-
-    private static void g3Strips() {
-        strip("black first", Pages.bilevel("##."), 3, MARK + "1 00110101 11 000111");
-        strip("every fourth line by itself",
-            Pages.bilevel("#...", "#...", "....", "####", "#...", ".#.."), 3,
-            MARK + "1 00110101 010 1000"
-            + MARK + "0 1 1 1"
-            + MARK + "0 0001 1"
-            + MARK + "0 001 00110101 011"
-            + MARK + "1 00110101 010 1000"
-            + MARK + "0 011 000010 1");
-        FaxPages pages = Pages.bilevel("#", "#", "#", "#", "#", "#", "#");
-        pages.write(3, false, 3);
-        String byItself = MARK + "1 00110101 010";
-        String strip = Pages.packedHex(byItself + MARK + "0 1 1" + MARK + "0 1 1");
-        String last = Pages.packedHex(byItself);
-        String due = strip + " " + strip + " " + last;
-        CHECK.same("lines count by strips", Pages.hex(pages, 8, 8 + (due.length() + 1) / 3), due);
-    }
-
-    private static void g4Strips() {
-        strip("white", Pages.bilevel("...", "..."), 4, "1 1" + MARK + MARK);
-        strip("black", Pages.bilevel("###", "###"), 4, "0000010 1" + "1 1" + MARK + MARK);
-        FaxPages pages = Pages.bilevel("#####", "#####");
-        pages.write(4, false, 1);
-        String strip = Pages.packedHex("001 00110101 0011" + MARK + MARK);
-        CHECK.same("each strip by a white line", Pages.hex(pages, 8, 8 + strip.length() * 2 / 3 + 1),
-            strip + " " + strip);
-    }
-
-    private static void g4Modes() {
-        String head = "001 0111 0011 1";
-        String line = "..#####.....";
-        strip("b1 - 1, b1 + 1", Pages.bilevel(line, ".#######...."), 4, head + "010 011 1" + MARK + MARK);
-        strip("b1 - 2, b1 + 2", Pages.bilevel(line, "#########..."), 4, head + "000010 000011 1" + MARK + MARK);
-        strip("b1 + 3, b1 - 1", Pages.bilevel(line, ".....#......"), 4, head + "0000011 010 1" + MARK + MARK);
-        strip("b1 - 3", Pages.bilevel("....#.......", ".#.........."), 4,
-            "001 1011 010 1" + "0000010 0000010 0001 1" + MARK + MARK);
-        strip("two runs", Pages.bilevel(line, "......#....."), 4,
-            head + "001 1110 010 1" + MARK + MARK);
-        strip("nothing of the other", Pages.bilevel(line, "............"), 4, head + "0001 1" + MARK + MARK);
-        strip("b2 is a1", Pages.bilevel("#...........", ".#.........."), 4,
-            "001 00110101 010 1" + "011 001 010 00111" + MARK + MARK);
-        strip("both lines end", Pages.bilevel(".....#######", ".........###"), 4,
-            "001 1100 00011" + "001 10100 10" + MARK + MARK);
-    }
-
-    private static void allRunCodes() {
-        CHECK.same("codes", Model.WHITE.length + Model.BLACK.length, 82);
-        for (int run = 0; run <= 40; run++) {
-            String line = ".".repeat(run) + "#".repeat(40 - run);
-            strip("line " + line, Pages.bilevel(line), 3,
-                MARK + "1" + Model.WHITE[run] + (run < 40 ? Model.BLACK[40 - run] : ""));
+        for (int scheme : SCHEMES) {
+            pages.write(scheme, false, 1);
+            CHECK.same("how many tags", number(pages, number(pages, 4, 4), 2), scheme == 3 ? 9 : 8);
         }
     }
 
-    private static void wrongArguments() {
-        FaxPages bilevel = Pages.bilevel("#.", ".#", "##");
-        bilevel.write(4, true, 2);
-        FaxPages gray = Pages.gray(2, 1, 2, 3, 4);
-        String before = Pages.state(bilevel);
-        String grayBefore = Pages.state(gray);
-        for (int scheme : new int[] {0, 2, 6, -1, 32772, 32774, -32763, 65539, Integer.MIN_VALUE}) {
-            CHECK.raises("scheme " + scheme, IllegalArgumentException.class, () -> bilevel.write(scheme, false, 1));
+    private static int number(FaxPages pages, int place, int bytes) {
+        int value = 0;
+        for (int i = bytes - 1; i >= 0; i--) {
+            value = value << 8 | pages.at(place + i);
         }
-        for (int scheme : new int[] {1, 3, 4, 5, 32773}) {
-            for (int rows : new int[] {0, -1, 4, Integer.MIN_VALUE, Integer.MAX_VALUE}) {
-                CHECK.raises("rows " + rows, IllegalArgumentException.class, () -> bilevel.write(scheme, true, rows));
-                CHECK.raises("rows " + rows, IllegalArgumentException.class, () -> gray.write(scheme, true, rows));
+        return value;
+    }
+
+    /** The place of the nth tag's value in a file of order II. */
+    private static int valuePlace(FaxPages pages, int nth) {
+        return number(pages, 4, 4) + 2 + 12 * nth + 8;
+    }
+
+    private static void kindTags() {
+        for (boolean gray : new boolean[] {false, true}) {
+            FaxPages pages = new FaxPages();
+            pages.blank(gray, 19, 18);
+            pages.write(5, false, 17);
+            int[] due = {19, 18, gray ? 8 : 1, 5, gray ? 1 : 0};
+            for (int i = 0; i < due.length; i++) {
+                CHECK.same("tag " + i, number(pages, valuePlace(pages, i), 4), due[i]);
+            }
+            CHECK.same("rows", number(pages, valuePlace(pages, 6), 4), 17);
+        }
+    }
+
+    private static void rowsOfStrips() {
+        FaxPages pages = new FaxPages();
+        pages.blank(false, 17, 24);
+        for (int rows = 1; rows <= 24; rows++) {
+            pages.write(1, false, rows);
+            int strips = number(pages, valuePlace(pages, 5) - 4, 4);
+            CHECK.same("strips of " + rows, strips, 24 / rows + (24 % rows == 0 ? 0 : 1));
+            CHECK.same("how many sizes", number(pages, valuePlace(pages, 7) - 4, 4), strips);
+            int last = strips == 1 ? valuePlace(pages, 7) : number(pages, valuePlace(pages, 7), 4) + 4 * (strips - 1);
+            CHECK.same("bytes of the last", number(pages, last, 4), 3 * (24 - (strips - 1) * rows));
+            if (strips > 1) {
+                CHECK.same("bytes of the first", number(pages, number(pages, valuePlace(pages, 7), 4), 4), 3 * rows);
             }
         }
-        CHECK.raises("G3 gray", IllegalStateException.class, () -> gray.write(3, true, 1));
-        CHECK.raises("G4 gray", IllegalStateException.class, () -> gray.write(4, false, 2));
-        CHECK.same("state", Pages.state(bilevel), before);
-        CHECK.same("state", Pages.state(gray), grayBefore);
+    }
+
+    private static void stripLists() {
+        FaxPages pages = Pages.gray(2, 1, 1, 2, 3, 4, 4);
+        pages.write(32773, false, 3);
+        CHECK.same("one strip's place", number(pages, valuePlace(pages, 5), 4), 8);
+        CHECK.same("one strip's bytes", number(pages, valuePlace(pages, 7), 4), 7);
+        CHECK.same("one strip", Pages.hex(pages, 8, 18), "ff 01 01 02 03 ff 04 00 08 00");
+        pages.write(32773, false, 1);
+        CHECK.same("where the places are", number(pages, valuePlace(pages, 5), 4), 15);
+        CHECK.same("where the sizes are", number(pages, valuePlace(pages, 7), 4), 27);
+        CHECK.same("three strips", Pages.hex(pages, 8, 42), "ff 01 01 02 03 ff 04"
+            + " 08 00 00 00 0a 00 00 00 0d 00 00 00 02 00 00 00 03 00 00 00 02 00 00 00 00 08 00");
+        pages.write(32773, false, 2);
+        CHECK.same("two strips", Pages.hex(pages, 8, 34), "ff 01 01 02 03 ff 04"
+            + " 08 00 00 00 0d 00 00 00 05 00 00 00 02 00 00 00 00 08 00");
+        FaxPages most = new FaxPages();
+        most.blank(false, 40, 24);
+        CHECK.same("the most strips", most.write(3, true, 1), 8 + 24 * 3 + 2 * 96 + 114);
+        CHECK.same("the most strips", most.info(6), 24);
+    }
+
+    private static void evenPlaces() {
+        for (int width = 1; width <= 8; width++) {
+            FaxPages pages = new FaxPages();
+            pages.blank(true, width, 1);
+            pages.set(width - 1, 0, 255);
+            pages.write(1, false, 1);
+            int place = number(pages, 4, 4);
+            CHECK.same("one strip of " + width, place, 8 + width + width % 2);
+            CHECK.same("behind the strip", pages.at(8 + width), width % 2 == 1 ? 0 : 8);
+            CHECK.same("the strip's bytes", number(pages, valuePlace(pages, 7), 4), width);
+            pages.blank(true, width, 3);
+            pages.write(1, false, 2);
+            CHECK.same("two strips of " + width, number(pages, 4, 4), 8 + 3 * width + 16 + width % 2);
+        }
+    }
+
+    private static void sizes() {
+        for (int scheme : SCHEMES) {
+            for (int rows = 1; rows <= 3; rows++) {
+                FaxPages pages = Pages.bilevel("#.#.#.#.#.", ".#.#.#.#.#", "##########");
+                int size = pages.write(scheme, rows == 2, rows);
+                CHECK.same("size", pages.size(), size);
+                CHECK.same("behind it", pages.at(size), FaxPages.NONE);
+                CHECK.same("picture stays", Pages.shown(pages), "#.#.#.#.#.\n.#.#.#.#.#\n##########\n");
+            }
+        }
+        FaxPages shorter = new FaxPages();
+        for (int i = 0; i < 300; i++) {
+            shorter.add(255);
+        }
+        CHECK.same("a shorter file", shorter.write(1, true, 1), 112);
+        CHECK.same("size", shorter.size(), 112);
+    }
+
+    /** Pictures that no scheme can make small, and those with the longest codes, in as many strips as can be. */
+    private static void longestFiles() {
+        FaxPages dots = new FaxPages();
+        dots.blank(false, 40, 24);
+        FaxPages noise = new FaxPages();
+        noise.blank(true, 20, 20);
+        for (int i = 0; i < 960; i++) {
+            dots.set(i % 40, i / 40, (i + i / 40) % 2);
+        }
+        for (int i = 0; i < 400; i++) {
+            noise.set(i % 20, i / 20, (i * 37 + i / 20) & 255);
+        }
+        for (FaxPages pages : new FaxPages[] {dots, noise}) {
+            String shown = Pages.shown(pages);
+            for (int scheme : SCHEMES) {
+                for (int rows : new int[] {1, 2, pages.info(1)}) {
+                    if (pages.info(2) == 0 || scheme != 3 && scheme != 4) {
+                        int size = pages.write(scheme, true, rows);
+                        CHECK.isTrue("not more than 2000", size == pages.size() && size <= 2000);
+                        CHECK.isTrue("it is read", pages.read() > 0);
+                        CHECK.same("picture", Pages.shown(pages), shown);
+                    }
+                }
+            }
+        }
+    }
+
+    private static void refuses(String what, Class<? extends RuntimeException> due, boolean gray,
+            Consumer<FaxPages> write) {
+        CHECK.refuses(what, due, gray ? Pages.withPast() : Pages.bilevelWithPast(), write);
+    }
+
+    private static void noScheme() {
+        for (int scheme : new int[] {0, 2, 6, -1, -4, 7, 32772, 32774, -32763, 65537, 65539, 98309, LEAST, MOST}) {
+            refuses("scheme " + scheme, IllegalArgumentException.class, false, p -> p.write(scheme, false, 1));
+            refuses("scheme " + scheme, IllegalArgumentException.class, true, p -> p.write(scheme, true, 1));
+        }
+    }
+
+    private static void wrongRows() {
+        for (int scheme : SCHEMES) {
+            for (int rows : new int[] {0, -1, 4, 24, LEAST, MOST}) {
+                refuses("rows " + rows, IllegalArgumentException.class, false, p -> p.write(scheme, true, rows));
+            }
+            for (int rows = 1; rows <= 3; rows++) {
+                CHECK.isTrue("rows " + rows, Pages.bilevelWithPast().write(scheme, true, rows) > 0);
+            }
+        }
+        for (int scheme : new int[] {1, 5, 32773}) {
+            for (int rows : new int[] {0, -1, 3, LEAST, MOST}) {
+                refuses("rows " + rows, IllegalArgumentException.class, true, p -> p.write(scheme, true, rows));
+            }
+            for (int rows = 1; rows <= 2; rows++) {
+                CHECK.isTrue("rows " + rows, Pages.withPast().write(scheme, true, rows) > 0);
+            }
+        }
+    }
+
+    private static void grayFax() {
+        for (int scheme : new int[] {3, 4}) {
+            for (int rows = 1; rows <= 2; rows++) {
+                int height = rows;
+                refuses("gray and " + scheme, IllegalStateException.class, true, p -> p.write(scheme, true, height));
+                refuses("gray and " + scheme, IllegalStateException.class, true, p -> p.write(scheme, false, height));
+            }
+            FaxPages pages = Pages.withPast();
+            pages.blank(false, 1, 1);
+            CHECK.isTrue("bilevel again", pages.write(scheme, true, 1) > 0);
+        }
+    }
+
+    private static void firstWins() {
+        for (int scheme : new int[] {3, 4}) {
+            for (int rows : new int[] {0, -1, 3, LEAST, MOST}) {
+                refuses("rows " + rows, IllegalArgumentException.class, true, p -> p.write(scheme, true, rows));
+            }
+        }
     }
 
     private static void againAndAgain() {
@@ -222,13 +263,15 @@ public final class WriteTest {
         for (int i = 0; i < 2; i++) {
             StringBuilder all = new StringBuilder();
             for (int scheme : new int[] {5, 3, 32773, 4, 1}) {
-                int size = pages.write(scheme, i == 1, 1);
-                CHECK.same("size", pages.size(), size);
-                CHECK.same("picture stays", Pages.shown(pages), "#.#.#.#.#.\n.#.#.#.#.#\n");
+                pages.write(scheme, i == 1, 1);
                 pages.write(scheme, false, 2);
                 all.append(Pages.hex(pages, 0, pages.size()));
+                pages.put(8, 170);
+                pages.read();
+                pages.cut(9);
             }
             first[i] = all.toString();
+            CHECK.refuses("a refused call between", IllegalArgumentException.class, pages, p -> p.write(5, true, 3));
         }
         CHECK.same("the same files again", first[1], first[0]);
     }
