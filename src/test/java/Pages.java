@@ -28,16 +28,18 @@ final class Pages {
         return pages;
     }
 
-    /** With a picture and a file that was written, all of it unlike what a new object has. */
+    /** With a picture and a file that was written and read, all of it unlike what a new object has. */
     static FaxPages withPast() {
         FaxPages pages = gray(3, 11, 22, 33, 44, 55, 255);
         pages.write(32773, true, 1);
+        pages.read();
         return pages;
     }
 
     static FaxPages bilevelWithPast() {
         FaxPages pages = bilevel("#.#", ".##", "##.");
         pages.write(4, true, 2);
+        pages.read();
         return pages;
     }
 
@@ -53,7 +55,7 @@ final class Pages {
     /** As bilevel takes it; gray pixels as numbers. */
     static String shown(FaxPages pages) {
         boolean gray = pages.info(2) == 1;
-        IntFunction<String> pixel = v -> gray ? v + " " : v == 1 ? "#" : ".";
+        IntFunction<String> pixel = v -> gray ? v + " " : v == 1 ? "#" : v == 0 ? "." : "?";
         StringBuilder text = new StringBuilder();
         for (int y = 0; y < pages.info(1); y++) {
             for (int x = 0; x < pages.info(0); x++) {

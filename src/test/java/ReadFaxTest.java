@@ -119,6 +119,9 @@ public final class ReadFaxTest {
             StringBuilder mark = new StringBuilder(MARK);
             mark.setCharAt(wrong, mark.charAt(wrong) == '0' ? '1' : '0');
             refused("G3, bit " + wrong, 3, 4, 1, mark + "1 1011");
+            refused("G3, bit " + wrong + " of the second", 3, 4, 2, MARK + "1 1011" + mark + "1 1011");
+            refused("G3, bit " + wrong + " of the second", 3, 4, 2, MARK + "1 1011" + mark + "0 1");
+            refused("G3, bit " + wrong + " of the second, and no bit", 3, 4, 2, MARK + "1 1011" + mark + "1");
             refused("G4, bit " + wrong, 4, 4, 1, "1" + mark + MARK);
             refused("G4, bit " + wrong + " of the second", 4, 4, 1, "1" + MARK + mark);
         }
@@ -233,8 +236,16 @@ public final class ReadFaxTest {
         held("b2 is the last pixel", 4, "001 0111 010 1" + "0001 1" + END, "..#.", "....");
         held("of white in black", 4, "001" + W0 + "010 001 000111 010 1" + "1 0001 000011 1" + END, "#.#.....",
             "#####...");
-        refused("b2 is the width", 4, 4, 2, "001 0111 11" + "0001 1" + END);
-        refused("b1 is the width", 4, 4, 1, "0001 1" + END);
+        held("of more white in black", 4, "001" + W0 + "010 001 1000 010 1" + "1 0001 000011 1" + END, "#...#...",
+            "#######.");
+        held("a is b2 then", 4, first + "0001 001 000111 010 1" + END, "..##....", ".....#..");
+        held("a is b2 then, where it is black", 4, "001" + W0 + "010 001 1000 010 1" + "1 0001 001 010 1000" + END,
+            "#...#...", "#####...");
+        refused("b2 is the width", 4, 4, 2, "001 0111 11" + "0001" + END);
+        refused("b2 is the width, and more", 4, 4, 2, "001 0111 11" + "0001 1" + END);
+        refused("b1 is the width", 4, 4, 1, "0001" + END);
+        refused("b1 is the width, and more", 4, 4, 1, "0001 1" + END);
+        refused("b2 is the width, where it is black", 4, 4, 2, "001" + W0 + "010 1" + "1 0001" + END);
         refused("passed twice, but there is one", 4, 8, 2, first + "0001 0001 1" + END);
     }
 
@@ -242,6 +253,8 @@ public final class ReadFaxTest {
         held("no black", 4, "001 000111" + B0 + "1" + END, "....");
         held("no white", 4, "001" + W0 + "010 1" + END, "#...");
         held("no white in the middle", 4, "001 000111 010 001" + W0 + "010 1" + END, ".##.");
+        held("black, then white", 4, "0000010 001 010 0111" + END, "#..");
+        held("black, then white, and so on", 4, "0000010 001 010 000111 1" + END, "#.#");
         held("white 0 at the end", 4, "0000010 001" + Model.BLACK[3] + W0 + END, "###");
         refused("both 0 at first", 4, 4, 1, "001" + W0 + B0 + "1" + END);
         refused("both 0 in the middle", 4, 4, 1, "001 000111 010 001" + W0 + B0 + "1" + END);

@@ -394,6 +394,8 @@ public final class ReadTagsTest {
 
     private static void rows() {
         refused("0", bilevel().tag(278, SHORT, 0), TAGS);
+        refused("0, and no strips", bilevel().tag(278, SHORT, 0).tag(273, LONG, 8).count(273, 0).tag(279, LONG, 2)
+            .count(279, 0), TAGS);
         refused("above the height", bilevel().tag(278, SHORT, 3), TAGS);
         refused("above the height of 24", ofSize(false, 1, 24, 24).tag(278, SHORT, 25), TAGS);
         for (long rows : new long[] {0xffffffffL, 0x80000002L, 0x10002L, 258}) {

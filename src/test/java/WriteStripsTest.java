@@ -138,6 +138,9 @@ public final class WriteStripsTest {
         table("its own entry", 7, row(7, 7, 7, 7, 7, 7, 9), 256, 7, 258, 259, 9, 257);
         table("an older entry", 3, row(1, 2, 1, 2, 1, 2, 3, 3, 3), 256, 1, 2, 258, 258, 3, 262, 257);
         table("the longest of several", 10, row(1, 2, 1, 2, 3, 1, 2, 3, 1, 2), 256, 1, 2, 258, 3, 260, 258, 257);
+        table("the first of two that begin the same", 6, row(1, 2, 1, 3, 1, 2), 256, 1, 2, 1, 3, 258, 257);
+        table("the last of two that begin the same", 6, row(1, 2, 1, 3, 1, 3), 256, 1, 2, 1, 3, 260, 257);
+        table("the second of three that begin the same", 8, row(1, 2, 1, 3, 1, 4, 1, 3), 256, 1, 2, 1, 3, 1, 4, 260, 257);
         table("no byte behind the last", 5, row(4, 5, 4, 5, 4), 256, 4, 5, 258, 4, 257);
         table("the entry is all that is left", 4, row(4, 5, 4, 5), 256, 4, 5, 258, 257);
         table("one byte is left", 3, row(4, 4, 4), 256, 4, 258, 257);
