@@ -27,10 +27,11 @@ public final class OtherReaderTest {
         Random random = new Random(7);
         int givenUp = 0;
         for (int i = 0; i < 400; i++) {
-            FaxPages pages = i < 5 ? noise(random) : RandomPages.picture(random);
+            boolean longCodes = i < 5;
+            FaxPages pages = longCodes ? RandomPages.noise(random) : RandomPages.picture(random);
             int height = pages.info(1);
-            int scheme = i < 5 ? 5 : RandomPages.scheme(random, pages.info(2) == 1);
-            int rows = i < 5 ? height : 1 + random.nextInt(height);
+            int scheme = longCodes ? 5 : RandomPages.scheme(random, pages.info(2) == 1);
+            int rows = longCodes ? height : 1 + random.nextInt(height);
             pages.write(scheme, random.nextBoolean(), rows);
             String what = "scheme " + scheme + ", " + rows + " rows of a strip";
             String seen = seenByOther(Pages.bytes(pages), pages.info(2) == 1);
@@ -41,11 +42,6 @@ public final class OtherReaderTest {
             }
         }
         CHECK.isTrue("few are given up, not " + givenUp, givenUp < 40);
-    }
-
-    /** Needs codes of 10 bits in the scheme TABLE. */
-    private static FaxPages noise(Random random) {
-        return Pages.gray(20, random.ints(400, 0, 256).toArray());
     }
 
     private static String seenByOther(byte[] file, boolean gray) throws IOException {

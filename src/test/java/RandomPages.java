@@ -11,6 +11,11 @@ final class RandomPages {
         return SCHEMES[random.nextInt(gray ? 3 : 5)];
     }
 
+    /** Needs codes of 10 bits in the scheme TABLE, if it is one strip. */
+    static FaxPages noise(Random random) {
+        return Pages.gray(20, random.ints(400, 0, 256).toArray());
+    }
+
     static FaxPages picture(Random random) {
         boolean gray = random.nextInt(3) == 0;
         FaxPages pages = new FaxPages();
